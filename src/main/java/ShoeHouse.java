@@ -634,6 +634,7 @@ public final class ShoeHouse {
         private int next;
         private int token;
         private int start;
+        private int value;
         private int fault;
         int place;
 
@@ -766,8 +767,7 @@ public final class ShoeHouse {
                 return NONE;
             }
             if (room == plan.home[lodger]) {
-                refuse(TAKEN);
-                return NONE;
+                return refuse(TAKEN);
             }
             return ELSEWHERE + room;
         }
@@ -804,8 +804,7 @@ public final class ShoeHouse {
             if (isWord("calm")) {
                 return CALM;
             }
-            refuse(CANT_STAND);
-            return NONE;
+            return refuse(CANT_STAND);
         }
 
         private int signTold() {
@@ -821,8 +820,7 @@ public final class ShoeHouse {
             if (isWord("both")) {
                 return BOTH;
             }
-            refuse(CANT_STAND);
-            return NONE;
+            return refuse(CANT_STAND);
         }
 
         private boolean isFull(int many, int most) {
@@ -834,40 +832,35 @@ public final class ShoeHouse {
         }
 
         private int toldNumber(int many) {
-            int number = numberWithin(0, 999);
-            if (number != NONE && number >= many) {
-                refuse(NOT_TOLD);
-                return NONE;
+            int why = faultOfNumber();
+            if (why == 0 && value >= many) {
+                why = NOT_TOLD;
             }
-            return number;
+            return why == 0 ? value : refuse(why);
         }
 
         private int numberWithin(int least, int most) {
+            int why = faultOfNumber();
+            if (why == 0 && (value < least || value > most)) {
+                why = TOO_MUCH;
+            }
+            return why == 0 ? value : refuse(why);
+        }
+
+        private int faultOfNumber() {
             if (token != NUMBER) {
-                refuse(CANT_STAND);
-                return NONE;
+                return CANT_STAND;
             }
-            int number = next - start > 3 ? NONE : numberHere();
-            if (number < least || number > most) {
-                refuse(TOO_MUCH);
-                return NONE;
-            }
-            return number;
+            return next - start > 3 ? TOO_MUCH : 0;
         }
 
-        private int numberHere() {
-            int number = 0;
-            for (int i = start; i < next; i++) {
-                number = number * 10 + (text[i] - '0');
-            }
-            return number;
-        }
-
-        private void refuse(int why) {
+        /** The first fault is the one that counts; NONE, for what could not be read. */
+        private int refuse(int why) {
             if (fault == 0) {
                 fault = why;
                 place = start;
             }
+            return NONE;
         }
 
         private boolean isWord(String word) {
@@ -900,9 +893,19 @@ public final class ShoeHouse {
             } else if (first >= '0' && first <= '9') {
                 token = NUMBER;
                 takeRow('0', '9');
+                value = valueHere();
             } else {
                 token = first == ';' ? STOP : STRAY;
             }
+        }
+
+        /** Of the first three digits, so that no row of them is too great for an int. */
+        private int valueHere() {
+            int number = 0;
+            for (int i = start; i < next && i < start + 3; i++) {
+                number = number * 10 + (text[i] - '0');
+            }
+            return number;
         }
 
         private void takeRow(char least, char most) {
@@ -961,8 +964,9 @@ public final class ShoeHouse {
 
         /** Which shoes a lodger has at least one of, as a sign. */
         int shoeKinds(int lodger) {
-            int kinds = shoesOf(lodger, LEFT) > 0 ? LEFT : 0;
-            return shoesOf(lodger, RIGHT) > 0 ? kinds | RIGHT : kinds;
+            int left = shoes[lodger * 2] > 0 ? LEFT : 0;
+            int right = shoes[lodger * 2 + 1] > 0 ? RIGHT : 0;
+            return left | right;
         }
 
         boolean canLend(int lodger, int shoe) {
@@ -1049,12 +1053,14 @@ public final class ShoeHouse {
         /** What a lodger may do then by which his door has that sign, a bit each. */
         int doingsBySign(int lodger, int hour, int itsSign) {
             int doings = plan.doings(lodger, hour);
+            int has = now.shoeKinds(lodger);
+            int found = 0;
             for (int doing = 0; doing < ELSEWHERE + MOST_ROOMS; doing++) {
-                if ((doings >> doing & 1) == 1 && signOf(lodger, doing) != itsSign) {
-                    doings ^= 1 << doing;
+                if ((doings >> doing & 1) == 1 && (plan.lawFor(doing) & has) == itsSign) {
+                    found |= 1 << doing;
                 }
             }
-            return doings;
+            return found;
         }
 
         int chanceAt(int room, int hour) {

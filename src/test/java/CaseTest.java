@@ -9,6 +9,7 @@ public final class CaseTest {
         sureRooms();
         wheres();
         spent();
+        exactlySpent();
         misled();
         misledByMore();
         B.end();
@@ -103,6 +104,26 @@ public final class CaseTest {
             text.append("may5").append(new String[] {"out", "cross"}[i]).append(" 0 0;");
         }
         return text.toString();
+    }
+
+    private static void exactlySpent() {
+        String text = "room1;room1;room1;room1;room1;room1;room1;lodger0;lodger1;lodger2;lodger3;lodger4;lodger5;";
+        int[] many = {5, 5, 5, 4, 4, 2};
+        StringBuilder mays = new StringBuilder(text);
+        for (int lodger = 0; lodger < 6; lodger++) {
+            for (int i = 0; i < many[lodger]; i++) {
+                mays.append("may").append(lodger).append(i < 4 ? Model.DOINGS[i] : "at6").append(" 9 9;");
+            }
+        }
+        ShoeHouse h = Bench.of(mays.toString());
+        h.see(6, 9, 3);
+        B.due("4000 rows", 4000, h::cases);
+        B.due("the last one's last", 1, () -> h.inCase(3999, 5));
+        B.due("the first one's last", 16, () -> h.inCase(3999, 0));
+        B.due("misled too", 0, () -> h.misled(6, 9, 0));
+        ShoeHouse more = Bench.of(mays + "may5calm 9 9;");
+        more.see(6, 9, 3);
+        B.due("6000 rows", -2, more::cases);
     }
 
     private static void spent() {

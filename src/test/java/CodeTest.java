@@ -41,6 +41,7 @@ public final class CodeTest {
 
     private static void mended() {
         B.due("a word", 1, () -> H.mend(7, 2, 3));
+        B.due("nothing", 0, () -> H.mend(0, 1, 3));
         B.due("one away", 1, () -> H.mend(3, 2, 3));
         B.due("one away, the highest kind", 0, () -> H.mend(128, 2, 3));
         B.due("two away", -1, () -> H.mend(192, 2, 3));

@@ -121,6 +121,9 @@ public final class DayTest {
         h.look(0, 4, 0);
         B.due("an earlier hour", 0, () -> h.theft(0, 0));
         B.due("hour 4", 4, () -> h.theft(0, 1));
+        ShoeHouse early = Bench.of("room 5;lodger 0;finder 0;may 0 cross 0 23;law cross none;");
+        B.due("in hour 0", 0, () -> early.theft(0, 1));
+        B.due("by finder 0", 0, () -> early.theft(0, 0));
         B.dueThrow("what", Bench.NO_ELEMENT, () -> h.theft(0, 2));
         B.dueThrow("room", Bench.NO_ELEMENT, () -> h.theft(3, 0));
     }
@@ -146,6 +149,32 @@ public final class DayTest {
         B.due("no hour left", -1, () -> h.count(5));
         B.due("forget again", 0, h::forget);
         B.due("see it once more", 1, () -> h.see(2, 8, 1));
+    }
+
+    /** What is undone behind a restore is what the image had, not what was lent in between. */
+    private static void imageOfLent() {
+        ShoeHouse h = Bench.of("room 1;room 2;room 3;room 4;lodger 0;lodger 1;lodger 2;lodger 3;");
+        h.lend(3, 2, 2);
+        h.image();
+        h.back();
+        h.lend(0, 1, 1);
+        h.restore();
+        B.due("lent in the image", 2, () -> h.lodger(2, 2));
+        B.due("undone", 0, h::back);
+        B.due("giver", 1, () -> h.lodger(3, 2));
+        B.due("taker", 1, () -> h.lodger(2, 2));
+        B.due("left shoes of 0", 1, () -> h.lodger(0, 1));
+        B.due("left shoes of 1", 1, () -> h.lodger(1, 1));
+    }
+
+    private static void imageOfSigns() {
+        ShoeHouse h = Bench.of("room 1;");
+        h.see(0, 4, 3);
+        h.image();
+        h.see(0, 5, 0);
+        B.due("no case", 0, h::cases);
+        h.restore();
+        B.due("a case", 1, h::cases);
     }
 
     private static void image() {
@@ -183,5 +212,7 @@ public final class DayTest {
         h.lend(0, 1, 2);
         B.due("the new one", 1, () -> h.restore() ? 1 : 0);
         B.due("none lent", 0, () -> h.count(4));
+        imageOfLent();
+        imageOfSigns();
     }
 }

@@ -258,6 +258,7 @@ public final class TextTest {
         B.due("cross", 0, () -> h.says(0, 2));
         B.due("calm", 3, () -> h.says(0, 3));
         B.due("at 2 he is out", 3, () -> h.says(0, 12));
+        B.due("at 0 too", 3, () -> h.says(0, 10));
         B.due("of both what he has", 1, () -> h.says(1, 0));
         h.lend(0, 1, 2);
         B.due("a right one came", 3, () -> h.says(1, 0));
